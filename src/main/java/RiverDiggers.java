@@ -955,7 +955,9 @@ public final class RiverDiggers {
         void renew(int k, int lane, int n) {
             lanes[k] = lane;
             sizes[k] = n;
-            Arrays.fill(values, k * SHEET_CELLS, (k + 1) * SHEET_CELLS, 0);
+            for (int i = 0; i < SHEET_CELLS; i++) {
+                values[k * SHEET_CELLS + i] = 0;
+            }
         }
 
         /** Nothing can be taken as of any lane. */
@@ -1030,27 +1032,23 @@ public final class RiverDiggers {
             value = 0;
             if (at >= length) {
                 kind = END;
-            } else if (bytes[at] == ';') {
+                return;
+            }
+            if (bytes[at] == ';') {
                 kind = STOP;
                 at++;
-            } else if (isLetter(bytes[at])) {
-                kind = NAME;
-                while (at < length && isLetter(bytes[at])) {
-                    at++;
-                }
-            } else {
-                gatherFigures();
+                return;
             }
-        }
-
-        private void gatherFigures() {
-            kind = NUMBER;
-            while (at < length && isFigure(bytes[at])) {
-                value = at - start < LONGEST_NUMBER ? value * 10 + bytes[at] - '0' : value;
+            kind = isLetter(bytes[at]) ? NAME : NUMBER;
+            while (at < length && kind == NAME && isLetter(bytes[at])) {
                 at++;
             }
-            // A byte that begins no token leaves a number without figures.
-            if (at == start || at - start > LONGEST_NUMBER) {
+            while (at < length && kind == NUMBER && isFigure(bytes[at])) {
+                value = value * 10 + bytes[at] - '0';
+                at++;
+            }
+            // A byte that begins no token is left as a number without figures.
+            if (at == start || kind == NUMBER && at - start > LONGEST_NUMBER) {
                 fail(1);
             }
         }

@@ -181,6 +181,13 @@ public final class PromisesTest {
     refuses("law 1\n;", 1, 5);
     refuses("la w 1;", 2, 0);
     refuses("rows 1;", 2, 0);
+    refuses("zz;", 2, 0);
+    refuses("lawz 1;", 2, 0);
+    refuses("law 1{;", 1, 5);
+    refuses("law 1`;", 1, 5);
+    refuses("law 1:;", 1, 5);
+    refuses("law 1/;", 1, 5);
+    refuses("law 99999999999999999999;", 1, 4);
     refuses("lawsilt;", 2, 0);
     refuses(";", 2, 0);
     refuses("  7;", 2, 2);
@@ -504,6 +511,11 @@ public final class PromisesTest {
     due(20, "alone(0, -1, 0)", x.alone(0, -1, 0), BAD);
     int[] what = {-1, 1, 9, 13, LOW, TOP};
     for (int v : what) due(20, "alone(0, 0, " + v + ")", x.alone(0, 0, v), BAD);
+    RiverDiggers last = of("plain 5 5;row 3 9 9 9 9 9;row 4 9 9 9 2 3;spring 23;farm 1;ground 0 24;");
+    due(20, "alone(0, 24, 0)", last.alone(0, 24, 0), 1);
+    due(20, "alone(0, 24, 10)", last.alone(0, 24, 10), 24);
+    due(15, "year(25)", last.year(25), 2);
+    due(15, "cell(24, 0)", last.cell(24, 0), 6);
     // Silt alone lowers cells 1 to 3 of the bed: the first row by options is to wait, then to cut.
     RiverDiggers y = of("plain 3 3;row 0 5 4 4;row 1 4 3 4;row 2 4 2 1;farm 2;farm 3;ground 0 1 2 5;ground 1 3 6 7;silt;");
     due(20, "alone(1, 6, 0)", y.alone(1, 6, 0), 3);
@@ -881,5 +893,12 @@ public final class PromisesTest {
     due(37, "count(7) of the most there can be", y.count(7), 729);
     due(30, "fits(0) of the most there can be", y.fits(0), 729);
     due(37, "count(0)", y.count(0), 25);
+    due(24, "breaks(25) of the most there can be", y.breaks(25), STATE);
+    // The least of the years that were asked about, and can be no more.
+    y.dam(0, 2);
+    due(24, "fits(0) without cell 0", y.fits(0), 648);
+    for (int option = 1; option < 26; option++) {
+      due(24, "breaks(" + option + ")", y.breaks(option) == STATE ? 1 : 0, option > 1 && option < 9 ? 0 : 1);
+    }
   }
 }
