@@ -1,6 +1,9 @@
 import java.nio.charset.StandardCharsets;
 
-/** The promises of the document one by one; every due answer here was found by hand. */
+/**
+ * The promises of the document one by one. The due answers were found by hand, but for the last plain of alone(), which
+ * is that of the shared runs, and the steep plain of again(), which was searched for with the class itself.
+ */
 public final class PromisesTest {
   private static final int BAD = -1, STATE = -2, FULL = -3, NONE = -4;
   private static final int LOW = Integer.MIN_VALUE, TOP = Integer.MAX_VALUE;
