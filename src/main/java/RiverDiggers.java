@@ -537,9 +537,9 @@ public final class RiverDiggers {
         }
         trial.copy(now.flow);
         int went = 0;
-        int fault = sheets.castFault(k, lane);
+        int fault = 0;
         for (int i = 0; i < n && fault == 0; i++) {
-            fault = sheets.reachFault(k, f + i);
+            fault = sheets.takeFault(k, lane, f + i);
             if (fault == 0) {
                 int y = sheets.valueAt(k, f + i);
                 if (refusal(trial, y, now.years + i) != 0) {
@@ -960,9 +960,9 @@ public final class RiverDiggers {
             }
         }
 
-        /** Nothing can be taken as of any lane. */
-        int castFault(int k, int lane) {
-            return sizes[k] >= 0 && lanes[k] != lane ? CAST_FAULT : 0;
+        /** Nothing can be taken as of any lane, and a row is taken as of its lane ahead of its cell. */
+        int takeFault(int k, int lane, int i) {
+            return sizes[k] >= 0 && lanes[k] != lane ? CAST_FAULT : reachFault(k, i);
         }
 
         int reachFault(int k, int i) {

@@ -627,11 +627,8 @@ public final class OracleTest {
       int[] h = heights;
       int went = 0, found = 0;
       try {
-        byte[] b = lane == 0 ? (byte[]) sheets[k] : null;
-        short[] s = lane == 1 ? (short[]) sheets[k] : null;
-        int[] w = lane == 2 ? (int[]) sheets[k] : null;
         for (int i = 0; i < n; i++) {
-          int y = lane == 0 ? b[f + i] : lane == 1 ? s[f + i] : w[f + i];
+          int y = lane == 0 ? ((byte[]) sheets[k])[f + i] : lane == 1 ? ((short[]) sheets[k])[f + i] : ((int[]) sheets[k])[f + i];
           if (refusal(h, y, years + i) != 0) return -20 - i;
           h = behind(h, y);
           went++;

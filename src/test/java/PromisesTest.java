@@ -79,6 +79,7 @@ public final class PromisesTest {
     images();
     sheets();
     reading();
+    readingNone();
     lastYear();
     counting();
     System.out.println(wrong == 0 ? asked + " answers are as due" : wrong + " of " + asked + " answers are not as due");
@@ -853,6 +854,28 @@ public final class PromisesTest {
     y.lay(0, 0, 1);
     due(35, "read(0, 0, 0, 1)", y.read(0, 0, 0, 1), 1);
     due(35, "odds(0, 1)", y.odds(0, 1), 2);
+  }
+
+  /** A read of no years finds no fault, whatever the sheet is; one of a year finds the lane ahead of the cell. */
+  private static void readingNone() {
+    int[] places = {0, 1, 2, -1, LOW, TOP};
+    for (int of = -1; of < 3; of++) {
+      for (int size = 0; size < 3; size += 2) {
+        for (int lane = 0; lane < 3; lane++) {
+          RiverDiggers x = bank(4);
+          if (of >= 0) x.sheet(2, of, size);
+          for (int f : places) {
+            String call = "read(2, " + lane + ", " + f + ", n) of " + size + " cells of lane " + of;
+            int due = of < 0 ? 1 : of != lane ? 3 : f < 0 || f >= size ? 2 : 0;
+            due(35, call + ", n 1", x.read(2, lane, f, 1), due == 0 ? 1 : 0);
+            due(36, call + ", n 1, torn()", x.torn(), due);
+            due(35, call + ", n 0", x.read(2, lane, f, 0), 0);
+            due(36, call + ", n 0, torn()", x.torn(), 0);
+          }
+          due(35, "rule(6)", x.rule(6), of == lane ? size : 0);
+        }
+      }
+    }
   }
 
   private static void lastYear() {
