@@ -2,7 +2,8 @@ import java.nio.charset.StandardCharsets;
 
 /**
  * The promises of the document one by one. The due answers were found by hand, but for the last plain of alone(), which
- * is that of the shared runs, and the steep plain of again(), which was searched for with the class itself.
+ * is that of the shared runs, and the steep plain of again(), which was searched for with the class itself; those of
+ * readingNone() are told by a rule beside the calls.
  */
 public final class PromisesTest {
   private static final int BAD = -1, STATE = -2, FULL = -3, NONE = -4;
