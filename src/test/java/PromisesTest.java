@@ -1,42 +1,9 @@
-import java.nio.charset.StandardCharsets;
-
 /**
  * The promises of the document one by one. The due answers were found by hand, but for the last plain of alone(), which
  * is that of the shared runs, and the steep plain of again(), which was searched for with the class itself; those of
  * readingNone() are told by a rule beside the calls.
  */
-public final class PromisesTest {
-  private static final int BAD = -1, STATE = -2, FULL = -3, NONE = -4;
-  private static final int LOW = Integer.MIN_VALUE, TOP = Integer.MAX_VALUE;
-  private static int wrong = 0, asked = 0;
-
-  private static void due(int promise, String call, long got, long want) {
-    asked++;
-    if (got != want) {
-      wrong++;
-      System.out.println("promise " + promise + ": " + call + " answered " + got + ", due is " + want);
-    }
-  }
-
-  private static void feed(RiverDiggers x, byte[] t) {
-    for (int i = 0; i < t.length; i += 8) {
-      long v = 0;
-      for (int j = 0; j < 8; j++) v = v << 8 | (i + j < t.length ? t[i + j] & 255 : ' ');
-      x.feed(v);
-    }
-    x.end(t.length);
-  }
-
-  private static void feed(RiverDiggers x, String t) { feed(x, t.getBytes(StandardCharsets.ISO_8859_1)); }
-
-  private static RiverDiggers of(String t) {
-    RiverDiggers x = new RiverDiggers();
-    feed(x, t);
-    int lines = x.text();
-    if (lines < 0) due(4, "text of " + t, lines, 0);
-    return x;
-  }
-
+public final class PromisesTest extends Due {
   /** A stair of 5 cells along the north, walls south of it; the farm has one cell on it, one beside, one far. */
   private static RiverDiggers stair() {
     return of("plain 5 3;row 0 5 4 3 2 1;row 1 9 9 9 9 9;row 2 9 9 9 9 9;farm 4;ground 0 1 6 11;");
@@ -83,8 +50,7 @@ public final class PromisesTest {
     readingNone();
     lastYear();
     counting();
-    System.out.println(wrong == 0 ? asked + " answers are as due" : wrong + " of " + asked + " answers are not as due");
-    if (wrong != 0) System.exit(1);
+    finish();
   }
 
   private static void newObject() {
