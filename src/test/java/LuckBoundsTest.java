@@ -91,6 +91,14 @@ public final class LuckBoundsTest extends Due {
         "fits 0 = 1", "forget 7 = 8", "fits 0 = 8", "see 0 true = 8", "fits 0 = 0", "see 0 true = FULL");
     run(of("plain 5 5;"), "see 24 true = 1", "see 25 true = BAD", "fits 0 = 1", "see 24 false = 2", "fits 0 = 0");
     run(of("plain 2 2;"), "see 3 true = 1", "see 4 true = BAD");
+    // Each cell of the largest plain, seen in the bed and out of it.
+    for (int c = 0; c < 25; c++) {
+      for (int in = 0; in < 25; in++) {
+        RiverDiggers x = of("plain 5 5;");
+        for (int d = 0; d < 25; d++) x.dam(d, d == in ? 0 : 9);
+        run(x, "move " + in, "see " + c + " true", "fits 0 = " + (c == in ? 1 : 0), "forget 0", "see " + c + " false", "fits 0 = " + (c == in ? 0 : 1));
+      }
+    }
   }
 
   private static void forgetting() {

@@ -127,9 +127,34 @@ public final class PlainBoundsTest extends Due {
         }
       }
     }
-    // So it is for what is next to the bed, by LAW 1 and 2.
+    for (int wide = 2; wide <= 5; wide++) for (int high = 2; high <= 5; high++) for (int c = 0; c < wide * high; c++) nextToBed(wide, high, c);
+    // So it is with rows of other heights too.
     run(of("row 0 9 9 5;row 1 9 9 9;row 2 9 9 9;spring 2;farm 1;ground 0 0 1 3 4 5 6 7 8;law 2;"), "count 0 = 1", "farm 0 3 = " + (2 + 32));
     run(of("row 0 9 9 9;row 1 5 9 9;row 2 9 9 9;spring 3;farm 1;ground 0 0 1 2 4 5 6 7 8;law 2;"), "count 0 = 1", "farm 0 3 = " + (1 + 16 + 64));
+  }
+
+  /** So it is for what is next to the bed: of a bed of one cell, all others being ground as far as three farms can have it. */
+  private static void nextToBed(int wide, int high, int c) {
+    StringBuilder t = new StringBuilder("plain " + wide + " " + high + ";spring " + c + ";farm 1;farm 1;farm 1;");
+    int listed = 0;
+    int[] all = new int[3], next = new int[3];
+    for (int d = 0; d < wide * high; d++) {
+      if (d == c) continue;
+      if (listed % 8 == 0) t.append(listed == 0 ? "" : ";").append("ground ").append(listed / 8);
+      t.append(' ').append(d);
+      all[listed / 8] |= 1 << d;
+      if (Math.abs(c / wide - d / wide) + Math.abs(c % wide - d % wide) == 1) next[listed / 8] |= 1 << d;
+      listed++;
+    }
+    RiverDiggers x = of(t + ";");
+    for (int d = 0; d < wide * high; d++) x.dam(d, d == c ? 3 : 4);
+    due(37, "count(0)", x.count(0), 1);
+    for (int law = 0; law < 3; law++) {
+      x.law(law);
+      for (int f = 0; f < 3; f++) {
+        due(8, "farm(" + f + ", 3) by law " + law + " of " + t, x.farm(f, 3), law == 0 ? all[f] : next[f]);
+      }
+    }
   }
 
   /** "ever the lowest of those CELLS .. (.. of several the first so) that are not .. higher than the latest one" */

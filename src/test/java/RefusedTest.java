@@ -19,6 +19,7 @@ public final class RefusedTest extends Due {
     }
     for (String[] state : states) for (Object[] row : badTexts()) refusedText(state, (String) row[0], (int) row[1], (int) row[2]);
     sees();
+    askedAnew();
     finish();
   }
 
@@ -229,16 +230,31 @@ public final class RefusedTest extends Due {
     }
   }
 
-  /** The test itself: what is asked shows each change that a refused call could make. */
-  private static void sees() {
-    String[] changes = {"feed " + eight("law 1;  "), "end 5", "end 0", "text", "dam 0 1", "dam 8 99", "move 1", "law 0", "silt false", "price 0 9", "price 2 1", "year 0", "tell 0", "tell 2", "drop 1",
+  private static final String[] CHANGES = {"feed " + eight("law 1;  "), "end 5", "end 0", "text", "dam 0 1", "dam 8 99", "move 1", "law 0", "silt false", "price 0 9", "price 2 1", "year 0", "tell 0", "tell 2", "drop 1",
         "drop 0", "see 0 true", "see 0 false", "forget 2", "forget 0", "keep 0", "keep 1", "back 0", "back 1", "sheet 0 0 3", "sheet 0 1 3", "sheet 0 0 2", "sheet 1 1 2", "sheet 2 2 1",
         "sheet 3 0 0", "lay 0 0 0", "lay 0 1 9", "lay 0 2 0", "lay 1 1 0", "lay 2 0 0", "read 0 0 0 1", "read 0 0 0 2", "read 0 0 0 0", "read 0 1 0 1", "read 3 0 0 1"};
-    for (String change : changes) {
+
+  /** The test itself: what is asked shows each change that a refused call could make. */
+  private static void sees() {
+    for (String change : CHANGES) {
       RiverDiggers with = made(busy()), without = made(busy());
       call(with, change);
       int told = busy().length + 1;
       must(!new Asked(with, told).all().equals(new Asked(without, told).all()), "what is asked does not show " + change);
+    }
+  }
+
+  /** What was asked ahead of a change is asked anew behind it. */
+  private static void askedAnew() {
+    String[] questions = {"selfish 0", "rests 0", "breaks 0", "together 2 0", "odds 2 0", "fits 0", "alone 1 6 0", "would 0 0", "judge 0", "again 0", "stands 0"};
+    for (String change : CHANGES) {
+      for (String question : questions) {
+        RiverDiggers with = made(busy()), without = made(busy());
+        call(with, question);
+        call(with, change);
+        call(without, change);
+        for (String behind : questions) due(promiseOf(behind), behind + " behind " + question + " and " + change, call(with, behind), call(without, behind));
+      }
     }
   }
 }

@@ -173,6 +173,13 @@ public final class SheetBoundsTest extends Due {
       due(34, "cell(24, 0) by " + row[1] + " on lane " + row[0], x.cell(24, 0), y == 17547 ? 0 : 3);
       due(34, "rule(6) by " + row[1] + " on lane " + row[0], x.rule(6), row[2] < 0 ? 0 : 1);
     }
+    // Years of 128, 200 and 255 can be, but no byte is so high: it is below 0 then.
+    String high = "plain 5 5;row 0 1 1 1 1 1;row 1 1 1 1 1 1;row 3 1 1 1 1 1;row 4 1 1 1 1 1;farm 1;farm 1;ground 0 23 17 20;ground 1 3 6 8;";
+    for (int v : new int[] {128, 200, 255}) {
+      for (int lane = 0; lane < 3; lane++) {
+        run(of(high), "sheet 1 " + lane + " 1", "lay 1 0 " + v + " = 1", "read 1 " + lane + " 0 1 = " + (lane == 0 ? -20 : 1), "count 6 = " + (lane == 0 ? 60 : 54));
+      }
+    }
     // What is laid later stands.
     run(of(t), "sheet 0 2 1", "lay 0 0 -1 = 1", "lay 0 0 23 = 1", "read 0 2 0 1 = 1", "cell 22 0 = 0");
   }
@@ -212,15 +219,17 @@ public final class SheetBoundsTest extends Due {
   private static void readLanes() {
     for (int of = -1; of < 3; of++) {
       for (int lane = 0; lane < 3; lane++) {
-        for (int f : new int[] {0, 1, 2, -1, LOW, TOP}) {
-          RiverDiggers x = bank(9);
-          if (of >= 0) run(x, "sheet 2 " + of + " 2", "lay 2 0 3");
-          int fault = of < 0 ? 1 : of != lane ? 3 : f < 0 || f > 1 ? 2 : 0;
-          String call = "read(2, " + lane + ", " + f + ", 1) of lane " + of;
-          due(35, call, x.read(2, lane, f, 1), fault == 0 ? 1 : 0);
-          due(36, "torn() of " + call, x.torn(), fault);
-          due(35, "cell(2, 0) of " + call, x.cell(2, 0), fault == 0 && f == 0 ? 24 : 27);
-          due(35, "rule(6) of " + call, x.rule(6), fault == 0 ? 1 : 0);
+        for (int f : new int[] {0, 1, 2, 39, 40, -1, LOW, TOP}) {
+          for (int size : new int[] {0, 2, 40}) {
+            RiverDiggers x = bank(9);
+            if (of >= 0) run(x, "sheet 2 " + of + " " + size, "lay 2 0 3");
+            int fault = of < 0 ? 1 : of != lane ? 3 : f < 0 || f >= size ? 2 : 0;
+            String call = "read(2, " + lane + ", " + f + ", 1) of " + size + " cells of lane " + of;
+            due(35, call, x.read(2, lane, f, 1), fault == 0 ? 1 : 0);
+            due(36, "torn() of " + call, x.torn(), fault);
+            due(35, "cell(2, 0) of " + call, x.cell(2, 0), fault == 0 && f == 0 ? 24 : 27);
+            due(35, "rule(6) of " + call, x.rule(6), fault == 0 ? 1 : 0);
+          }
         }
       }
     }
@@ -258,6 +267,9 @@ public final class SheetBoundsTest extends Due {
   /** "one behind another as by year()": each by the heights that those ahead have left. */
   private static void readAsYears() {
     run(bank(2), "sheet 0 1 5", "lay 0 0 3", "lay 0 1 3", "lay 0 2 3", "read 0 1 0 3 = -22", "cell 2 0 = 6", "read 0 1 0 2 = 2", "cell 2 0 = 0", "read 0 1 0 1 = -20");
+    // What can be is asked anew behind them.
+    run(bank(2), "sheet 0 1 5", "lay 0 0 3", "read 0 1 0 1 = 1", "fits 0 = 2", "count 7 = 2", "read 0 1 0 1 = 1", "fits 0 = 1", "count 7 = 1", "breaks 3 = STATE");
+    run(bank(3), "odds 2 1 = 2", "sheet 0 1 5", "lay 0 0 3", "read 0 1 0 1 = 1", "odds 2 0 = 1", "odds 2 1 = 1", "rests 0 = 2", "selfish 10 = 3");
     // Silt goes with each of them; by law 2 the second bank may be cut when the first has been.
     RiverDiggers x = of("plain 4 2;row 0 3 2 1 0;row 1 9 9 9 9;silt;");
     run(x, "sheet 0 0 3", "read 0 0 0 2 = 2", "cell 1 0 = 4", "cell 2 0 = 1", "cell 3 0 = 4", "count 0 = 3");

@@ -131,6 +131,23 @@ public final class TextBoundsTest extends Due {
     RiverDiggers none = new RiverDiggers();
     feed(none, "law 1;");
     run(none, "end 0 = 6", "text = 0", "rule 4 = 0");
+    // What stood behind the end is not read any more, even if it would go on with the last token.
+    String[][] cut = {{"law 12;", "5", "2"}, {"silt;", "4", "2"}, {"silt;!", "5", "0"}, {"law 1;x", "6", "0"}, {"law 1;;", "6", "0"}, {"law 1;    !", "9", "0"},
+        {"farm 1;farm 12;", "13", "2"}, {"silts;", "4", "2"}, {"law 001;", "6", "2"}, {"spring 8;law 3;", "9", "0"}};
+    for (String[] row : cut) {
+      RiverDiggers c = new RiverDiggers();
+      feed(c, row[0]);
+      int n = Integer.parseInt(row[1]), fault = Integer.parseInt(row[2]);
+      c.end(n);
+      due(3, "text of '" + row[0] + "' to " + n, c.text(), fault == 0 ? 1 : -10 - n);
+      due(3, "fault of '" + row[0] + "' to " + n, c.fault(), fault);
+    }
+    // So too behind a text that was longer.
+    RiverDiggers w = new RiverDiggers();
+    feed(w, "law 11;silt;");
+    run(w, "text = -14");
+    feed(w, "law 1");
+    run(w, "text = -15", "fault = 2");
   }
 
   // ---- 4: "THE TAPE (empty then) tells all: how many lines"
@@ -210,6 +227,8 @@ public final class TextBoundsTest extends Due {
       refused("a" + name + ";", 2, 0);
       refused((char) (name.charAt(0) - 32) + name.substring(1) + ";", 1, 0);
       refused("silt;" + name + name + ";", 2, 5);
+      for (int i = 0; i < name.length(); i++) refused(name.substring(0, i) + "z" + name.substring(i + 1) + " 1;", 2, 0);
+      for (String other : names) if (!other.equals(name)) refused(name + other + ";", 2, 0);
     }
   }
 
@@ -492,6 +511,10 @@ public final class TextBoundsTest extends Due {
     refused("spring 25!", 3, 7);
     refused("silt!", 1, 4);
     refused("row 0 1 1 1 1 1 1!", 5, 16);
+    // Faults of one token: the document does not say which is met first; the class goes by their numbers.
+    refused("row 0 1 1 1 1 1 10;", 3, 16);
+    refused("ground 0 0 1 2 3 4 5 6 7 25;", 3, 25);
+    refused("ground 0 0 1 2 3 4 5 6 7 7;", 4, 25);
   }
 
   // ---- 5: "The FAULT of the latest text(); 0."
